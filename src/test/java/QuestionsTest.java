@@ -1,4 +1,5 @@
 import java.util.NoSuchElementException;
+import java.util.function.IntUnaryOperator;
 
 /** Promises 12 to 31: what is asked of clocks, bills, the row, hours to come and votes. */
 final class QuestionsTest {
@@ -167,29 +168,22 @@ final class QuestionsTest {
     }
 
     private static String rowIn(ClockParliament x, int hours) {
-        StringBuilder told = new StringBuilder();
-        String gap = "";
-        for (int place = 0; place < x.account(2); place++) {
-            int at = place;
-            if (!Check.thrownBy(() -> x.rowIn(hours, at)).equals("nothing")) {
-                break;
-            }
-            told.append(gap).append(x.rowIn(hours, place));
-            gap = " ";
-        }
-        return told.toString();
+        return rowTold(x, place -> x.rowIn(hours, place));
     }
 
     private static String rowAgain(ClockParliament x, int hours) {
+        return rowTold(x, place -> x.rowAgain(hours, place));
+    }
+
+    private static String rowTold(ClockParliament x, IntUnaryOperator billAt) {
         StringBuilder told = new StringBuilder();
-        String gap = "";
         for (int place = 0; place < x.account(2); place++) {
-            int at = place;
-            if (!Check.thrownBy(() -> x.rowAgain(hours, at)).equals("nothing")) {
-                break;
+            try {
+                int bill = billAt.applyAsInt(place);
+                told.append(place == 0 ? "" : " ").append(bill);
+            } catch (NoSuchElementException e) {
+                return told.toString();
             }
-            told.append(gap).append(x.rowAgain(hours, place));
-            gap = " ";
         }
         return told.toString();
     }
