@@ -2,6 +2,8 @@
 final class Check {
     static int passed = 0;
     static int failed = 0;
+    // What the running test is about, for the message of a failure.
+    static String about = "";
 
     private Check() {
     }
@@ -11,7 +13,7 @@ final class Check {
             passed++;
         } else {
             failed++;
-            System.out.println("FAILED " + what + ": answered " + got + ", due is " + want);
+            System.out.println("FAILED " + about + what + ": answered " + got + ", due is " + want);
         }
     }
 

@@ -2,8 +2,10 @@ import java.lang.management.ManagementFactory;
 
 /** The calls of a run live in one room: what an object and its 512 calls take is looked at here. */
 final class RoomTest {
-    private static final long MOST_BYTES_OF_AN_OBJECT = 40_000;
-    private static final long MOST_BYTES_OF_ITS_CALLS = 4_000;
+    // A run has room for some 7.3 million fields and elements: a hundredth of it for an object, a twentieth for its
+    // calls, when each takes 4 bytes.
+    private static final long MOST_BYTES_OF_AN_OBJECT = 4 * 7_300_000 / 100;
+    private static final long MOST_BYTES_OF_ITS_CALLS = 4 * 7_300_000 / 20;
 
     private RoomTest() {
     }

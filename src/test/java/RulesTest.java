@@ -19,10 +19,11 @@ final class RulesTest {
         + "next ranked reason restore row rowAgain rowIn run save secondIn silentIn tell tellBill tellRow undo vote "
         + "voters weakest wind wouldCarry";
     private static final List<String> FORBIDDEN = List.of(
-        "->", "::", "\\bassert\\b", "\\bsynchronized\\b", "\\bfinally\\b", "\\bcatch\\b", "\\btry\\b", "\\bvar\\b",
-        "Exact\\b", "\\+ \"", "\" \\+", "\\bimport (?!java\\.util\\.NoSuchElementException;)", "\\bprotected\\b",
-        "\\bextends\\b", "String\\.", "\\bSystem\\.(?!arraycopy)", "\\bObject\\b", "\\bstatic \\{", "\\bpackage\\b",
-        "\\bMath\\.(?!abs\\b|min\\b|max\\b|floorMod\\b|floorDiv\\b)", "\\bInteger\\.(?!bitCount\\b|compare\\b)",
+        "(?<!\\bdefault |\\bcase [^:;{}]{1,80})->", "::", "\\bassert\\b", "\\bsynchronized\\b", "\\bfinally\\b",
+        "\\bcatch \\([^)]*\\b(Throwable|Exception|Error|NullPointer\\w+|ClassCast\\w+|Array\\w+|Negative\\w+)\\b",
+        "\\b(Math|Integer|Long)\\.\\w+Exact\\b", "\\+ \"", "\" \\+", "\\bimport (?!java\\.util\\.)", "String\\.",
+        "\\bSystem\\.(?!arraycopy)", "\\bObject\\b", "\\bstatic \\{", "\\bpackage\\b",
+        "\\bMath\\.(?!abs\\b|min\\b|max\\b|floorMod\\b|floorDiv\\b)", "\\b(Integer|Long)\\.(parse\\w+|to\\w*String)\\b",
         "[^\\x00-\\x7f]");
 
     private RulesTest() {
