@@ -495,7 +495,8 @@ final class Model {
         for (int i = 1; i < words.length; i++) {
             numbers[i - 1] = words[i].equals("-") ? -1 : Integer.parseInt(words[i]);
         }
-        List<String> names = List.of("clock", "leave", "key", "wind", "move", "bill", "adjourn", "drop", "vote", "hour");
+        List<String> names =
+            List.of("clock", "leave", "key", "wind", "move", "bill", "adjourn", "drop", "vote", "hour");
         if (order.equals("hour")) {
             numbers[0] = 1;
         }

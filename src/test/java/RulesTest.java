@@ -15,8 +15,8 @@ import java.util.regex.Pattern;
 /** Looks whether the class keeps to LANGUAGE.md, as far as its text and its members show. */
 final class RulesTest {
     private static final String FACE = "account adjourn apart append bill billOf carried carriedShare character circle "
-        + "clock clockOf doAgree drop faultPosition hour isTold keeper key leave majority majorityAgain meanSpring move "
-        + "next ranked reason restore row rowAgain rowIn run save secondIn silentIn tell tellBill tellRow undo vote "
+        + "clock clockOf doAgree drop faultPosition hour isTold keeper key leave majority majorityAgain meanSpring "
+        + "move next ranked reason restore row rowAgain rowIn run save secondIn silentIn tell tellBill tellRow undo vote "
         + "voters weakest wind wouldCarry";
     private static final List<String> FORBIDDEN = List.of(
         "(?<!\\bdefault |\\bcase [^:;{}]{1,80})->", "::", "\\bassert\\b", "\\bsynchronized\\b", "\\bfinally\\b",

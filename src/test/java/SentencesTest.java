@@ -5,6 +5,8 @@ import java.nio.file.Files;
 import java.nio.file.Path;
 import java.util.Arrays;
 import java.util.Comparator;
+import java.util.HashSet;
+import java.util.Set;
 
 /** Runs the tests of the document's sentences, and looks whether each sentence has one. */
 final class SentencesTest {
@@ -25,6 +27,8 @@ final class SentencesTest {
         {"The public face", "public int clock(int second, int leaning) throws UnsupportedOperationException;"}
     };
 
+    private static final int PROMISES = 45;
+
     private SentencesTest() {
     }
 
@@ -35,14 +39,19 @@ final class SentencesTest {
         if (document == null) {
             System.out.println("no document at " + file + ": its sentences are tested, but not compared with it");
         }
+        Set<String> about = new HashSet<>();
         for (Class<?> tests : TESTS) {
             Method[] methods = tests.getDeclaredMethods();
             Arrays.sort(methods, Comparator.comparing(Method::getName));
             for (Method method : methods) {
                 if (method.isAnnotationPresent(Sentence.class)) {
+                    about.add(method.getAnnotation(Sentence.class).of());
                     run(method, document);
                 }
             }
+        }
+        for (int promise = 1; promise <= PROMISES; promise++) {
+            Check.isSo("a test of promise " + promise, about.contains("Promise " + promise));
         }
         if (document != null) {
             completeness(document);
